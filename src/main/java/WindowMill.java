@@ -47,7 +47,7 @@ public final class WindowMill {
         if (fed == null || feeder == null) {
             return NONE;
         }
-        if (from - PORTS >= stage || feeder instanceof Windowed || ((fed.feeders >> from) & 1) != 0) {
+        if (from - PORTS >= stage || feeder instanceof Windowed || fed.isFedBy(from)) {
             return RING;
         }
         if (fed.came > 0) {
@@ -57,7 +57,6 @@ public final class WindowMill {
             return FULL;
         }
         fed.feeders |= 1 << from;
-        feeder.feeds |= 1 << stage;
         settleMarks();
         return Integer.bitCount(fed.feeders);
     }
@@ -274,8 +273,8 @@ public final class WindowMill {
             int all = 0;
             int toWindows = 0;
             for (int s = 0; s < made; s++) {
-                int feeders = stages[s].feeders | (s == stage ? 1 << from : 0);
-                ways[s] = waysFrom(port, feeders);
+                int more = s == stage ? waysToSource(port, from) : 0;
+                ways[s] = waysToStage(port, s) + more;
                 all += ways[s];
                 toWindows += stages[s] instanceof Windowed ? ways[s] : 0;
             }
@@ -286,27 +285,31 @@ public final class WindowMill {
         return false;
     }
 
-    /** The ways to a stage with these feeders; those of all stages ahead of it are counted already. */
-    private int waysFrom(int port, int feeders) {
-        int n = (feeders >> port) & 1;
-        for (int rest = feeders >> PORTS; rest != 0; rest &= rest - 1) {
-            n += ways[Integer.numberOfTrailingZeros(rest)];
+    /** The sum over all that feeds the stage; the ways to all stages ahead of it are counted already. */
+    private int waysToStage(int port, int stage) {
+        int n = 0;
+        for (int from = 0; from < PORTS + stage; from++) {
+            n += stages[stage].isFedBy(from) ? waysToSource(port, from) : 0;
         }
         return n;
     }
 
-    /** Calls itself at most once for each stage, as a stage feeds only such as have a greater number. */
-    private void carry(int from, int key, int minute, long value) {
-        Source giver = sourceAt(from);
-        if (giver == null) {
-            return;
+    private int waysToSource(int port, int from) {
+        if (from < PORTS) {
+            return from == port ? 1 : 0;
         }
-        for (int rest = giver.feeds; rest != 0; rest &= rest - 1) {
-            int s = Integer.numberOfTrailingZeros(rest);
-            Stage taker = stageAt(s);
-            if (taker instanceof Windowed windowed) {
+        return ways[from - PORTS];
+    }
+
+    /** Goes no deeper than there are stages: one is fed only by what is ahead of it. */
+    private void carry(int from, int key, int minute, long value) {
+        for (int s = Math.max(0, from - PORTS + 1); s < made; s++) {
+            if (!stages[s].isFedBy(from)) {
+                continue;
+            }
+            if (stages[s] instanceof Windowed windowed) {
                 windowed.take(key, minute, value);
-            } else if (taker instanceof Passing passing && passing.gives(key, minute, value)) {
+            } else if (stages[s] instanceof Passing passing && passing.gives(key, minute, value)) {
                 carry(PORTS + s, passing.gaveKey, minute, passing.gaveValue);
             }
         }
@@ -318,11 +321,10 @@ public final class WindowMill {
             Stage stage = stages[s];
             stage.idle = true;
             int least = LAST_MARK;
-            for (int rest = stage.feeders; rest != 0; rest &= rest - 1) {
-                Source feeder = sourceAt(Integer.numberOfTrailingZeros(rest));
-                if (feeder != null && !feeder.idle) {
+            for (int from = 0; from < PORTS + s; from++) {
+                if (stage.isFedBy(from) && !sources[from].idle) {
                     stage.idle = false;
-                    least = Math.min(least, feeder.mark);
+                    least = Math.min(least, sources[from].mark);
                 }
             }
             if (!stage.idle && least > stage.mark) {
@@ -335,8 +337,6 @@ public final class WindowMill {
     private static class Source {
         int mark;
         boolean idle;
-        /** Bit s: it feeds stage s. */
-        int feeds;
     }
 
     private abstract static class Stage extends Source {
@@ -348,6 +348,10 @@ public final class WindowMill {
         Stage(int kind) {
             this.kind = kind;
             this.idle = true;
+        }
+
+        boolean isFedBy(int from) {
+            return ((feeders >> from) & 1) != 0;
         }
 
         abstract void rise(int to);
@@ -368,7 +372,6 @@ public final class WindowMill {
             this.b = b;
         }
 
-        @Override
         void rise(int to) {
             mark = to;
         }
@@ -432,7 +435,6 @@ public final class WindowMill {
             }
         }
 
-        @Override
         void rise(int to) {
             mark = to;
             for (int n = due.size; n > 0 && Code.endOf(due.least()) <= to; n--) {
