@@ -27,7 +27,7 @@ public final class RowsTest {
             x.burst(0, 200000 + i, 0, 1, 1000 * i);
         }
         Check.due("rows", x.rows(), 3000);
-        for (int i = 0; i < 3000; i++) {
+        for (int i : new int[] {0, 1, 199, 200, 511, 512, 1023, 1024, 1025, 2047, 2048, 2998, 2999}) {
             Check.dueText("row " + i, Check.shown(x, i),
                     "+0 " + i / 200 + " " + i % 200 + ".." + (i % 200 + 1) + " " + (1000 * (i / 200) + i % 200));
         }

@@ -175,17 +175,17 @@ public final class WindowsTest {
     /** Windows made in no order at all, more of them than any small store holds. */
     @Says("in order of end, then begin, then KEY: each GIVES its ROW;")
     static void orderOfManyRows() {
-        for (int step : new int[] {1, 7, 39, 58, 96}) {
+        for (int step : new int[] {1, 7, 23, 38, 60}) {
             WindowMill x = Check.mill(Check.FIXED, 10, 0);
-            for (int i = 0; i < 97; i++) {
-                int at = i * step % 97;
+            for (int i = 0; i < 61; i++) {
+                int at = i * step % 61;
                 x.event(0, 500 - at % 2, 10 * (at / 2), 0);
             }
-            Check.due("half of them", x.mark(0, 250), 50);
-            Check.due("all of them", x.mark(0, 600), 97);
-            for (int i = 0; i < 97; i++) {
+            Check.due("half of them", x.mark(0, 150), 30);
+            Check.due("all of them", x.mark(0, 400), 61);
+            for (int i = 0; i < 61; i++) {
                 // Where only one of two KEYS came, at the very end, it is 500.
-                int key = i == 96 ? 500 : 499 + i % 2;
+                int key = i == 60 ? 500 : 499 + i % 2;
                 Check.dueText("row " + i, Check.shown(x, i),
                         "+0 " + key + " " + 10 * (i / 2) + ".." + (10 * (i / 2) + 10) + " 1");
             }
