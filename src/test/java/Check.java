@@ -12,6 +12,9 @@ final class Check {
     static final int HOW_MANY = 0, TOGETHER = 1, LEAST = 2, GREATEST = 3, DIFFERENT = 4, MIDDLE = 5;
     static final int NONE = -1, KIND = -2, RING = -3, STARTED = -4, BEHIND = -5, FULL = -6;
 
+    /** How many calls it takes to show a row. */
+    static final int SHOWN = 6;
+
     private static final int LONGEST_SECONDS = 300;
     private static String test = "";
     private static int asked = 0;
@@ -146,9 +149,13 @@ final class Check {
         }
         if (wrong > before) {
             Says says = method.getAnnotation(Says.class);
-            String where = says.promise() == 0 ? "Terms" : "promise " + says.promise();
-            System.out.println("    " + where + " says: " + String.join(" / ", says.value()));
+            System.out.println("    " + where(says.promise()) + " says: " + String.join(" / ", says.value()));
         }
+    }
+
+    /** The section of the document that these words stand in. */
+    static String where(int promise) {
+        return promise < 0 ? "What it is" : promise == 0 ? "Terms" : "promise " + promise;
     }
 
     static void end(String name) {

@@ -340,6 +340,20 @@ final class PlainMill {
         return stages.get(s).panes.stream().filter(pane -> !pane.isLetGo).mapToInt(pane -> pane.events.size()).sum();
     }
 
+    int about(int s, int what) {
+        Plain stage = stages.get(s);
+        return switch (what) {
+            case 0 -> stage.kind;
+            case 1 -> stage.mark;
+            case 2 -> stage.came;
+            case 3 -> stage.dropped;
+            case 4 -> open(s);
+            case 5 -> held(s);
+            case 6 -> stage.fedBy.size();
+            default -> isIdle(8 + s) ? 1 : 0;
+        };
+    }
+
     /** "key begin end sum" of all windows of the table that end at MARK or before. */
     TreeSet<String> ended(int s) {
         Plain stage = stages.get(s);

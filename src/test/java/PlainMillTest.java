@@ -1,13 +1,14 @@
 import java.util.List;
 import java.util.Random;
 import java.util.TreeSet;
+import java.util.function.ToIntFunction;
 
 /** Runs of calls, drawn from fixed seeds, on the class and on PlainMill: both must answer the same. */
 public final class PlainMillTest {
-    private static final int RUNS = 800, CALLS = 250;
+    private static final int RUNS = 800, CALLS = 250, BUILDING = 40;
     private final Random draw;
     private final int seed;
-    private final WindowMill x = new WindowMill();
+    private final LongMill x = new LongMill();
     private final PlainMill plain = new PlainMill();
     private final int minutes;
     private final int keys;
@@ -24,6 +25,11 @@ public final class PlainMillTest {
         Check.due("seed " + seed + ": " + call + ": " + what, got, want);
     }
 
+    private void dueTold(String name, ToIntFunction<WindowMill> told, int want) {
+        call = name;
+        due("answer", x.tell(told), want);
+    }
+
     private int upTo(int most) {
         return draw.nextInt(most + 1);
     }
@@ -33,19 +39,17 @@ public final class PlainMillTest {
     }
 
     private void stage() {
-        int kind = draw.nextInt(10);
-        kind = kind > 6 ? kind - 3 : kind;
+        int drawn = draw.nextInt(10);
+        int kind = drawn > 6 ? drawn - 3 : drawn;
         int a = kind < 3 ? upTo(8) - 4 : kind == 3 ? 1 + upTo(keys - 1) : kind == 6 ? width() - 1 : width();
         int b = kind == 5 ? (a + 3) / 4 + upTo(a - (a + 3) / 4) : kind == 0 ? upTo(3) : upTo(8) - 4;
-        call = "stage(" + kind + ", " + a + ", " + b + ")";
-        due("answer", x.stage(kind, a, b), plain.stage(kind, a, b));
+        dueTold("stage(" + kind + ", " + a + ", " + b + ")", m -> m.stage(kind, a, b), plain.stage(kind, a, b));
     }
 
     private void feed() {
         int stage = upTo(plain.stages.size());
         int from = draw.nextInt(3) > 0 ? upTo(2) : upTo(8 + stage);
-        call = "feed(" + stage + ", " + from + ")";
-        due("answer", x.feed(stage, from), plain.feed(stage, from));
+        dueTold("feed(" + stage + ", " + from + ")", m -> m.feed(stage, from), plain.feed(stage, from));
     }
 
     private void window() {
@@ -53,8 +57,8 @@ public final class PlainMillTest {
         int sum = upTo(5);
         int lateness = draw.nextBoolean() ? upTo(3) : upTo(minutes - 1);
         int early = draw.nextBoolean() ? 0 : upTo(4);
-        call = "window(" + stage + ", " + sum + ", " + lateness + ", " + early + ")";
-        due("answer", x.window(stage, sum, lateness, early), plain.window(stage, sum, lateness, early));
+        dueTold("window(" + stage + ", " + sum + ", " + lateness + ", " + early + ")",
+                m -> m.window(stage, sum, lateness, early), plain.window(stage, sum, lateness, early));
     }
 
     private int minute() {
@@ -70,8 +74,8 @@ public final class PlainMillTest {
         int key = draw.nextInt(keys);
         int minute = minute();
         int value = value();
-        call = "event(" + port + ", " + key + ", " + minute + ", " + value + ")";
-        due("answer", x.event(port, key, minute, value), plain.event(port, key, minute, value));
+        dueTold("event(" + port + ", " + key + ", " + minute + ", " + value + ")",
+                m -> m.event(port, key, minute, value), plain.event(port, key, minute, value));
     }
 
     private void burst() {
@@ -81,87 +85,107 @@ public final class PlainMillTest {
         int minute = minute();
         int step = upTo(8) - 4;
         int value = value();
-        call = "burst(" + port + ", " + (1000 * n + key) + ", " + minute + ", " + step + ", " + value + ")";
-        due("answer", x.burst(port, 1000 * n + key, minute, step, value),
-                plain.burst(port, n, key, minute, step, value));
+        dueTold("burst(" + port + ", " + (1000 * n + key) + ", " + minute + ", " + step + ", " + value + ")",
+                m -> m.burst(port, 1000 * n + key, minute, step, value), plain.burst(port, n, key, minute, step, value));
     }
 
     private void mark() {
         int port = upTo(2);
-        int m = plain.marks[port] + upTo(draw.nextBoolean() ? 4 : minutes / 8 + 1) - (draw.nextInt(9) == 0 ? 1 : 0);
-        m = Math.max(0, Math.min(200000, m));
-        call = "mark(" + port + ", " + m + ")";
-        due("answer", x.mark(port, m), plain.mark(port, m));
+        int to = plain.marks[port] + upTo(draw.nextBoolean() ? 4 : minutes / 8 + 1) - (draw.nextInt(9) == 0 ? 1 : 0);
+        int mark = Math.max(0, Math.min(200000, to));
+        dueTold("mark(" + port + ", " + mark + ")", m -> m.mark(port, mark), plain.mark(port, mark));
     }
 
     private void idle() {
         int port = upTo(2);
         int is = upTo(1);
-        call = "idle(" + port + ", " + is + ")";
-        due("answer", x.idle(port, is), plain.idle(port, is));
+        dueTold("idle(" + port + ", " + is + ")", m -> m.idle(port, is), plain.idle(port, is));
     }
 
     private void compareRows(int first) {
-        due("rows", x.rows(), plain.rows.size());
+        due("rows", x.ask(1).rows(), plain.rows.size());
         for (int i = first; i < plain.rows.size(); i++) {
             PlainMill.Row row = plain.rows.get(i);
-            Check.dueText("seed " + seed + ": " + call + ": row " + i, Check.shown(x, i), (row.isBack() ? "-" : "+")
-                    + row.stage() + " " + row.key() + " " + row.begin() + ".." + row.end() + " " + row.sum());
+            Check.dueText("seed " + seed + ": " + call + ": row " + i, Check.shown(x.ask(Check.SHOWN), i),
+                    (row.isBack() ? "-" : "+") + row.stage() + " " + row.key() + " " + row.begin() + ".." + row.end()
+                    + " " + row.sum());
         }
+    }
+
+    private void askAbout(int s, int what) {
+        due("about(" + s + ", " + what + ")", x.ask(1).about(s, what), plain.about(s, what));
+    }
+
+    private void askGave(int s) {
+        PlainMill.Event gave = plain.stages.get(s).gave;
+        due("gave(" + s + ", 0)", x.ask(1).gave(s, 0), gave == null ? -1 : gave.key());
+        due("gave(" + s + ", 1)", x.ask(1).gave(s, 1), gave == null ? -1 : gave.minute());
+        due("gaveValue(" + s + ")", x.ask(1).gaveValue(s), gave == null ? 0 : gave.value());
+    }
+
+    private void askLeft(int s) {
+        boolean hasRows = plain.stages.get(s).kind >= 4;
+        due("left(" + s + ")", x.ask(1).left(s), hasRows ? plain.leftOf(s).size() : -2);
+        due("apart(" + s + ")", x.ask(1).apart(s), hasRows ? 0 : -2);
+    }
+
+    private void askLeftRow(int s, int i, List<Integer> left) {
+        due("leftRow(" + s + ", " + i + ")", x.ask(1).leftRow(s, i), i < left.size() ? left.get(i) : -1);
+    }
+
+    private void askCounts() {
+        int open = 0;
+        for (int s = 0; s < plain.stages.size(); s++) {
+            open += plain.open(s);
+        }
+        due("count(0)", x.ask(1).count(0), plain.stages.size());
+        due("count(1)", x.ask(1).count(1), plain.told);
+        due("count(2)", x.ask(1).count(2), open);
+    }
+
+    private void askMark(int port) {
+        due("markOf(" + port + ")", x.ask(1).markOf(port), plain.marks[port]);
     }
 
     private void compareStage(int s) {
-        PlainMill.Plain stage = plain.stages.get(s);
-        int[] want = {
-            stage.kind, stage.mark, stage.came, stage.dropped, plain.open(s), plain.held(s), stage.fedBy.size(),
-            plain.isIdle(8 + s) ? 1 : 0};
-        for (int what = 0; what < want.length; what++) {
-            due("about(" + s + ", " + what + ")", x.about(s, what), want[what]);
+        for (int what = 0; what <= 7; what++) {
+            askAbout(s, what);
         }
-        due("gave(" + s + ", 0)", x.gave(s, 0), stage.gave == null ? -1 : stage.gave.key());
-        due("gave(" + s + ", 1)", x.gave(s, 1), stage.gave == null ? -1 : stage.gave.minute());
-        due("gaveValue(" + s + ")", x.gaveValue(s), stage.gave == null ? 0 : stage.gave.value());
-        due("apart(" + s + ")", x.apart(s), stage.kind < 4 ? -2 : 0);
-        if (stage.kind < 4) {
-            due("left(" + s + ")", x.left(s), -2);
-            return;
-        }
+        askGave(s);
+        askLeft(s);
         List<Integer> left = plain.leftOf(s);
-        due("left(" + s + ")", x.left(s), left.size());
         for (int i = 0; i <= left.size(); i++) {
-            due("leftRow(" + s + ", " + i + ")", x.leftRow(s, i), i < left.size() ? left.get(i) : -1);
+            askLeftRow(s, i, left);
         }
-        compareTable(s);
+        if (plain.stages.get(s).kind >= 4) {
+            compareTable(s, left);
+        }
     }
 
     /** The rows LEFT that have ended must be just those of the table of all events. */
-    private void compareTable(int s) {
+    private void compareTable(int s, List<Integer> left) {
         TreeSet<String> ended = new TreeSet<>();
-        for (int i = 0; i < x.left(s); i++) {
-            int row = x.leftRow(s, i);
-            if (x.row(row, 4) <= x.about(s, 1)) {
-                ended.add(x.row(row, 2) + " " + x.row(row, 3) + " " + x.row(row, 4) + " " + x.sum(row));
+        for (int row : left) {
+            WindowMill m = x.ask(5);
+            if (m.row(row, 4) <= plain.stages.get(s).mark) {
+                ended.add(m.row(row, 2) + " " + m.row(row, 3) + " " + m.row(row, 4) + " " + m.sum(row));
             }
         }
         Check.dueText("seed " + seed + ": " + call + ": table of " + s, ended.toString(), plain.ended(s).toString());
     }
 
     private void compareAll() {
-        int open = 0;
         for (int s = 0; s < plain.stages.size(); s++) {
             compareStage(s);
-            open += plain.open(s);
         }
-        due("count(0)", x.count(0), plain.stages.size());
-        due("count(1)", x.count(1), plain.told);
-        due("count(2)", x.count(2), open);
+        askCounts();
         for (int port = 0; port < 8; port++) {
-            due("markOf(" + port + ")", x.markOf(port), plain.marks[port]);
+            askMark(port);
         }
     }
 
     private void anyCall(int i) {
-        int drawn = draw.nextInt(i < 40 ? 14 : 40);
+        int drawn = draw.nextInt(i < BUILDING ? 14 : 40);
         switch (drawn) {
             case 0, 1, 2 -> stage();
             case 3, 4, 5, 6, 7 -> feed();
@@ -175,6 +199,20 @@ public final class PlainMillTest {
         }
     }
 
+    private void anyQuestion() {
+        int s = draw.nextInt(plain.stages.size());
+        switch (draw.nextInt(7)) {
+            case 0 -> askAbout(s, upTo(7));
+            case 1 -> askGave(s);
+            case 2 -> askLeft(s);
+            case 3 -> askLeftRow(s, upTo(plain.leftOf(s).size()), plain.leftOf(s));
+            case 4 -> askCounts();
+            case 5 -> askMark(upTo(7));
+            default -> compareRows(plain.rows.size() - Math.min(plain.rows.size(), upTo(1)));
+        }
+    }
+
+    /** Every row of every call is looked at, and now and then all that can be asked. */
     private void run() {
         for (int i = 0; i < CALLS; i++) {
             int first = plain.rows.size();
@@ -186,10 +224,24 @@ public final class PlainMillTest {
         }
     }
 
+    /** One object, told and asked in turn for all of its 512 calls. */
+    private void life() {
+        for (int i = 0; x.calls() < LongMill.CALLS; i++) {
+            boolean isRoomToAsk = x.calls() + Check.SHOWN < LongMill.CALLS;
+            if (isRoomToAsk && !plain.stages.isEmpty() && i >= BUILDING && draw.nextInt(3) == 0) {
+                anyQuestion();
+            } else {
+                anyCall(i);
+            }
+        }
+        due("objects used", x.objects(), 1);
+    }
+
     public static void main(String[] args) {
         int runs = args.length > 0 ? Integer.parseInt(args[0]) : RUNS;
         for (int seed = 0; seed < runs; seed++) {
             new PlainMillTest(seed).run();
+            new PlainMillTest(seed).life();
         }
         Check.end("PlainMillTest");
     }

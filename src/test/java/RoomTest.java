@@ -78,6 +78,30 @@ public final class RoomTest {
         told("joining", x, before, 4 * (1496 + 3 * 1495 + 2 + 2));
     }
 
+    /** Each event is of a KEY that none of its stages has seen, and makes four windows in each of four. */
+    private static void mostKeys() {
+        long before = used();
+        WindowMill x = new WindowMill();
+        for (int port = 0; port < 3; port++) {
+            int keyed = x.stage(Check.KEYED, 1000, 0);
+            x.feed(keyed, port);
+            for (int i = 1; i <= 4; i++) {
+                int s = x.stage(Check.SLIDING, 4, 1);
+                x.feed(s, 8 + keyed);
+                x.window(s, Check.MIDDLE, 0, 1);
+            }
+        }
+        for (int i = 0; i < 15; i++) {
+            x.burst(i / 5, 200000, 100 * i, 1, 200 * i);
+        }
+        for (int port = 0; port < 3; port++) {
+            x.mark(port, 200000);
+        }
+        long bytes = used() - before;
+        Check.due("most keys: rows", x.rows(), 3 * 48000);
+        Check.due("most keys: room for " + bytes + " bytes", bytes <= ROOM ? 1 : 0, 1);
+    }
+
     private static void manyMills() {
         long before = used();
         for (int i = 0; i < 30; i++) {
@@ -95,6 +119,7 @@ public final class RoomTest {
         backwards();
         oneWindow();
         joining();
+        mostKeys();
         manyMills();
         Check.end("RoomTest");
     }

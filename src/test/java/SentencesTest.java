@@ -5,10 +5,13 @@ import java.nio.file.Path;
 import java.util.Arrays;
 import java.util.List;
 
-/** Every word of "Terms" and of the promises is said by a test, and no test says what the document does not. */
+/**
+ * Every word of "What it is", of "Terms" and of the promises is said by a test, no test says what the document does
+ * not, and the class has the public face that stands there.
+ */
 public final class SentencesTest {
-    private static final Path DOCUMENT = Path.of("../shared/DOC.md");
-    private static final List<Class<?>> TESTS = List.of(EventsTest.class, KindsTest.class, WindowsTest.class,
+    private static final Path DOCUMENT = Path.of("../shared/DOC.md"), CLASS = Path.of("src/main/java/WindowMill.java");
+    private static final List<Class<?>> TESTS = List.of(WholeTest.class, EventsTest.class, KindsTest.class, WindowsTest.class,
             SessionsTest.class, RowsTest.class, BuildingTest.class, TellingTest.class, AskingTest.class);
     private static final int PROMISES = 19;
 
@@ -23,8 +26,11 @@ public final class SentencesTest {
         return to < 0 ? "" : text.substring(from + first.length(), to);
     }
 
-    /** "Terms" has its first words in the section ahead of it; a promise has its signature ahead of its words. */
+    /** "Terms" has its first words in "What it is", the section ahead of it; a promise has its signature ahead of its words. */
     private static String section(String document, int promise) {
+        if (promise < 0) {
+            return oneLine(between(document, "## What it is\n", "## The public face")).replaceAll("=+ 1 EVENTS.*?\\.\\.", "");
+        }
         if (promise == 0) {
             return oneLine("EVENTS " + between(document, "1 EVENTS", "\n") + " "
                     + between(document, "## Terms\n", "## Promise 1:")).replaceAll("=+ \\d ", "");
@@ -53,7 +59,24 @@ public final class SentencesTest {
             boolean isOfAWord = Character.isLetterOrDigit(text.charAt(i));
             unsaid.append(isSaid[i] || !isOfAWord ? ' ' : text.charAt(i));
         }
-        Check.dueText("what no test says of " + (promise == 0 ? "Terms" : "promise " + promise), oneLine(unsaid.toString()), "");
+        Check.dueText("what no test says of " + Check.where(promise), oneLine(unsaid.toString()), "");
+    }
+
+    /** What is public in a text, a line each, without what stands around it. */
+    private static String publicLines(String text) {
+        StringBuilder lines = new StringBuilder();
+        for (String line : text.split("\n")) {
+            if (line.trim().startsWith("public ")) {
+                lines.append(line.trim().replaceAll("( \\{|;)$", "")).append('\n');
+            }
+        }
+        return lines.toString();
+    }
+
+    private static void compareFace(String document, String text) {
+        String face = publicLines(between(document, "```java\n", "```"));
+        Check.due("lines of the public face", face.split("\n").length, 21);
+        Check.dueText("the public face", publicLines(text), face);
     }
 
     public static void main(String[] args) throws IOException {
@@ -62,7 +85,8 @@ public final class SentencesTest {
             return;
         }
         String document = Files.readString(DOCUMENT);
-        for (int promise = 0; promise <= PROMISES; promise++) {
+        compareFace(document, Files.readString(CLASS));
+        for (int promise = -1; promise <= PROMISES; promise++) {
             compare(document, promise);
         }
         Check.end("SentencesTest");
